@@ -744,8 +744,8 @@ public final class ArcadeRents {
         }
 
         void become(Leases other) {
-            System.arraycopy(other.held, 0, held, 0, MOST_SHOPS);
             for (int shop = 0; shop < MOST_SHOPS; shop++) {
+                held[shop] = other.held[shop];
                 System.arraycopy(other.steps[shop], 0, steps[shop], 0, TAPE);
                 System.arraycopy(other.ends[shop], 0, ends[shop], 0, PARTS);
             }

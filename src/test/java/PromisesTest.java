@@ -119,6 +119,10 @@ public final class PromisesTest {
         due(1, x.lay(0));
         due(100, x.feet(0, 100));
         due(77, x.feet(1, 100));
+        due(0, x.mark(0, 0, 55));
+        due(2, x.lay(0));
+        due(55, x.feet(0, 100));
+        due(77, x.feet(1, 100));
         due(100, x.feet(2, 100));
     }
 
@@ -603,6 +607,12 @@ public final class PromisesTest {
         fault("   ", 3);
         fault("basef turn", 0);
         fault("bas", 0);
+        fault("case 1 turn 1 leave 1", 0);
+        fault("bast 1 turn 1 leave 1", 0);
+        fault("base 1 burn 1 leave 1", 7);
+        fault("base 1 turn 1 heave 1", 14);
+        fault("base z turn 1 leave 1", 5);
+        fault("base zt turn 1 leave 1", 5);
         fault(" turn 1", 1);
         fault("base", 4);
         fault("base ", 5);
@@ -913,6 +923,19 @@ public final class PromisesTest {
         due(2, x.fallen(0));
         due(0, x.fallen(1));
         due(1, x.fallen(2));
+
+        // all twelve
+        fresh(24);
+        for (int i = 0; i < 12; i++) {
+            x.shop(0, 0, 0, 1, 1);
+            x.move(i, 11 - i);
+            leased(i, "base 0 turn 0 leave 1", 3);
+        }
+        due(11, x.without(7));
+        due(12, x.fall());
+        for (int i = 0; i < 12; i++) due(i, x.fallen(i));
+        due(NONE, x.fallen(12));
+        due(24, x.count(6));
 
         // t of today as known today; those without a lease stay
         fresh(24);
@@ -1355,14 +1378,14 @@ public final class PromisesTest {
         for (int i = 0; i < 4; i++) x.move(i, i);
         x.move(0, NONE);
         for (int i = 0; i < 6; i++) x.take(0, 0, 1);
-        for (int i = 0; i < 3; i++) x.withdraw(i);
+        for (int i = 0; i < 2; i++) x.withdraw(i);
         leased(2, "base 1 turn 1 leave 1", 3);
         leased(2, "base 1 turn 1 leave 1", 3);
         for (int i = 0; i < 7; i++) x.tell(i);
         x.feed(1, 2, 3);
         x.trim(8);
         x.months(9);
-        int[] counts = {2, 5, 3, 6, 3, 1, 5, 7, 8, 9};
+        int[] counts = {2, 5, 3, 6, 2, 1, 5, 7, 8, 9};
         for (int what = 0; what < 10; what++) due(counts[what], x.count(what));
     }
 }
