@@ -138,7 +138,7 @@ public final class EdgesLeasesTest extends Bench {
         for (char one = 'a'; one <= 'z'; one++) {
             boolean name = NAMES.indexOf(one) >= 0;
             leased(0, "base " + one + " turn 1 leave 1", name ? 3 : -105);
-            leased(0, "base " + one + one + " turn 1 leave 1", -105);
+            fault("base t" + one + " turn 1 leave 1", 5);
             leased(0, "base 1 turn 1 leave 0+" + one, name ? 4 : -122);
         }
     }
@@ -270,6 +270,15 @@ public final class EdgesLeasesTest extends Bench {
         fault("turn 1 base 1 leave 1", 0);
         fault("leave 1", 0);
         fault("1", 0);
+        fault("t 1 turn 1 leave 1", 0);
+        fault("case 1 turn 1 leave 1", 0);
+        fault("base 1 burn 1 leave 1", 7);
+        fault("base 1 turn 1 heave 1", 14);
+        fault("base base turn 1 leave 1", 5);
+        fault("base 1 turn turn leave 1", 12);
+        fault("base 1 turn 1 leave leave", 20);
+        fault("base 1+base turn 1 leave 1", 7);
+        fault("base 1 t 1 leave 1", 7);
         fault("(base 1 turn 1 leave 1)", 0);
         fault("base turn 1 leave 1", 5);
         fault("base 1 leave 1 turn 1", 7);
@@ -378,6 +387,9 @@ public final class EdgesLeasesTest extends Bench {
         gives("!(0-1)", 0);
         gives("!!(0-1)", 1);
         gives("(5>4)*9", 9);
+        // 0 itself, not something below it
+        String[] untrue = {"5&0", "0&5", "0&0", "0|0", "!5", "1<1", "1=2", "1>1"};
+        for (String e : untrue) gives("(" + e + ")+7", 7);
         gives("0&7/0", 0);
         gives("1|7/0", 1);
     }
@@ -447,6 +459,7 @@ public final class EdgesLeasesTest extends Bench {
         x.shop(0, 1, 0, 1101, 1);
         x.move(0, 5);
         gives("x", 0);
+        gives("x+7", 7);
         x.move(1, 9);
         x.move(2, 6);
         gives("x", 0);

@@ -439,6 +439,17 @@ public final class EdgesMixesTest extends Bench {
         due(100, x.mix(50000));
         due(2, x.mixed(50000, 11));
         for (int place = 0; place < 11; place++) due(NONE, x.mixed(50000, place));
+        // fewer are ahead of more, also where those with more come first by places
+        fresh();
+        for (int place = 0; place < 12; place++) x.feet(place, place == 0 ? 150 : 149);
+        for (int i = 0; i < 3; i++) x.shop(0, 0, 0, 1, 1);
+        due(3, x.mix(50000));
+        for (int i = 0; i < 3; i++) due(i, x.mixed(50000, 9 + i));
+        x.shop(0, 0, 0, 1101, 2);
+        due(3, x.mix(50000));
+        due(3, x.mixed(50000, 0));
+        for (int place = 1; place < 12; place++) due(NONE, x.mixed(50000, place));
+        // one coin more is ahead of fewer
         fresh();
         x.shop(0, 0, 0, 1, 60);
         x.shop(0, 0, 0, 1, 41);

@@ -20,6 +20,7 @@ public final class EdgesTakingsTest extends Bench {
         feedFull();
         trim();
         rent();
+        rentAgainAndAgain();
         rentAsKnown();
         rentAsTheyAre();
         rentRefused();
@@ -434,6 +435,14 @@ public final class EdgesTakingsTest extends Bench {
         due(15, x.rent(1, 1, 2));
         due(0, x.rent(1, 2, 2));
         due(0, x.rent(0, 2, 2));
+    }
+
+    private static void rentAgainAndAgain() {
+        about(21, "what E of base gives, 0 .. 99999");
+        shopsIn(0);
+        leased(0, "base 1+2*(3+4) turn !0 leave 0", 6);
+        for (int i = 0; i < 400; i++) due(16, x.rent(0, 0, 0));
+        due(0, x.fall());
     }
 
     private static void rentAsKnown() {
